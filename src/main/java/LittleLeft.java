@@ -705,7 +705,6 @@ public final class LittleLeft {
             held = other.held;
             least = other.least;
             full = other.full;
-            left = other.left;
         }
 
         void hold(Rule rule) {
@@ -722,7 +721,9 @@ public final class LittleLeft {
             cups[p] = 0;
             fetches[p] = 0;
             coins[p] = 0;
-            Arrays.fill(rows, p * PARTS, (p + 1) * PARTS, 0);
+            for (int part = 0; part < PARTS; part++) {
+                rows[p * PARTS + part] = 0;
+            }
             takers++;
             return p;
         }

@@ -53,11 +53,36 @@ public final class ActsTest {
         due("image() anew", x.image(), 3);
         x.taker(0, 0, 1);
         due("undo() to the newer one", x.undo(), 3);
+        told();
         LittleLeft empty = new LittleLeft();
         due("image() of nobody", empty.image(), 0);
         empty.taker(0, 0, 1);
         due("undo() to nobody", empty.undo(), 0);
         due("nobody is there", empty.takes(0), -1);
+    }
+
+    private static void told() {
+        LittleLeft x = Check.kitchen("", 100, Check.a(0, 0, 30));
+        x.see(100, 70);
+        x.book(70);
+        x.book(40);
+        x.image();
+        for (int again = 0; again < 2; again++) {
+            x.see(-1, 0);
+            x.see(100, 71);
+            x.book(-1);
+            x.book(70);
+            x.book(41);
+            due("otherwise SEEN", x.who(), 0);
+            due("otherwise in the BOOK", x.looked(), 1);
+            x.undo();
+            due("SEEN as it was", x.who(), 1);
+            due("the BOOK as it was", x.looked(), -5);
+        }
+        x.see(-1, 0);
+        x.see(101, 70);
+        x.undo();
+        due("found as it was", x.who(), 1);
     }
 
     /** One number of all that THE IMAGE is of. */

@@ -49,6 +49,7 @@ public final class BetterTest {
         LittleLeft x = Check.kitchen("full 3", 100, Check.a(5, 0, 30));
         due("full(3, 0): no FETCHES", x.full(3, 0), 10);
         due("full(3, 1): no FETCHES", x.full(3, 1), 0);
+        due("full(1, 0)", x.full(1, 0), 10);
         due("full(4, 0)", x.full(4, 0), 10);
         due("full(4, 1)", x.full(4, 1), 10);
         // By 10 to 30 it fetches on both DAYS, by 40 once.

@@ -189,6 +189,9 @@ public final class DaysTest {
     }
 
     private static void would() {
+        LittleLeft all = Check.kitchen("want 9 v=3;want 20 k=5;want 30 p=0", 100, Check.a(5, 3, 1));
+        due("by what is asked of it", all.would(0, 0), 60);
+        due("on(1, 0)", all.on(1, 0), 40);
         LittleLeft x = Check.kitchen("", 100, Check.a(0, 0, 30));
         due("would(1, 0)", x.would(1, 0), -1);
         due("would(-1, 0)", x.would(-1, 0), -1);
@@ -215,6 +218,8 @@ public final class DaysTest {
         due("on DAY 59 from now", late.next(1), 59);
         late.fill(65);
         due("on DAY 60 from now", late.next(1), -5);
+        LittleLeft third = Check.kitchen("want 99 d=2", 100, Check.a(5, 0, 1));
+        due("by what is wanted on DAY 2", third.next(1), 2);
         LittleLeft nobody = new LittleLeft();
         due("nobody: next(0)", nobody.next(0), -5);
         due("nobody: next(2)", nobody.next(2), -1);

@@ -8,6 +8,7 @@ public final class RulesTest {
         nesting();
         longTexts();
         numbersAndHolding();
+        oneTextBehindAnother();
         whatTestsAsk();
         howTestsJoin();
         CHECK.end();
@@ -26,12 +27,21 @@ public final class RulesTest {
         due("count(4) behind " + text, x.count(4), 0);
     }
 
-    private static void faults() {
-        String whole = "want 5 d<3";
+    /** A rule of whose beginnings none is one, but for that of a length (0: none at all). */
+    private static void begun(String whole, int shorter) {
         for (int n = 0; n < whole.length(); n++) {
-            read(whole.substring(0, n), n);
+            if (n != shorter || n == 0) {
+                read(whole.substring(0, n), n);
+            }
         }
         read(whole, -1);
+    }
+
+    private static void faults() {
+        begun("want 5 d<3", 0);
+        begun("pay 5 !(p=1|k<2)&f>3", 16);
+        begun("full 1", 0);
+        begun("least 1", 0);
         read("want 5 d<3 ", 10);
         read("want 5  d<3", 7);
         read("want  5 d<3", 5);
@@ -92,7 +102,9 @@ public final class RulesTest {
 
     private static void nesting() {
         read("pay 1 ((((p=1))))", -1);
+        read("want 1 ((((p=1))))", -1);
         read("pay 1 (((((p=1)))))", 10);
+        read("want 1 (((((p=1)))))", 11);
         read("pay 1 !!!!p=1", -1);
         read("pay 1 !!!!!p=1", 10);
         read("pay 1 !(!(p=1))", -1);
@@ -130,6 +142,20 @@ public final class RulesTest {
         due("count(1)", x.count(1), 6);
         due("a text that is none, behind six", Check.rule(x, "x"), -4);
         due("THE TEXT stays", x.count(4), 8);
+    }
+
+    private static void oneTextBehindAnother() {
+        LittleLeft x = Check.kitchen("", 100, Check.a(0, 0, 10));
+        due("full 12", Check.rule(x, "full 12"), 0);
+        due("a shorter text", Check.rule(x, "full 1"), 1);
+        due("its FULL", x.told(3), 10);
+        due("a fault", Check.rule(x, "full 3;least 9;want 5 p=0;x"), -10 - 26);
+        due("a shorter text", Check.rule(x, "pay 1 p=0"), 2);
+        due("its FULL", x.told(3), 200);
+        due("its least", x.told(2), 5);
+        due("its WANTS", x.of(0, 6), 10);
+        due("a shorter one with a fault", Check.rule(x, "pay 1 p"), -10 - 7);
+        due("PAY", x.of(0, 7), 1);
     }
 
     private static int wants(String e, int grains, int taker) {

@@ -39,6 +39,8 @@ public final class SeenTest {
         due("few(4, 0)", behind.few(4, 0), -5);
         LittleLeft none = Check.kitchen("", 3, Check.a(0, 0, 30));
         due("one who takes nothing leaves 3: few(3, 0)", none.few(3, 0), 0);
+        LittleLeft one = Check.kitchen("", 10, Check.a(5, 0, 9));
+        due("1 is few: few(1, 0)", one.few(1, 0), 0);
         LittleLeft three = Check.kitchen("want 20 d=1", 100, Check.a(5, 0, 9), Check.a(5, 0, 10), Check.a(5, 0, 11));
         // DAY 0: 91, 81, 70; DAY 1: 41, 11, 0.
         due("three: few(11, 0)", three.few(11, 0), 4);
@@ -71,6 +73,9 @@ public final class SeenTest {
         // The first takes all and fetches (1 by 2); the second fetches first, takes nothing, fetches (2 by 1).
         LittleLeft twice = Check.kitchen("full 0", 9, Check.a(5, 0, 60), Check.a(3, 0, 60));
         due("twice: pitied(1)", twice.pitied(1), 1);
+        // Each fetches once, the first having taken (1 by 2), the second not (1 by 1).
+        LittleLeft second = Check.kitchen("full 0", 9, Check.a(5, 0, 60), Check.a(0, 0, 60));
+        due("second: pitied(1)", second.pitied(1), 1);
         // Two alike: on each DAY both fetch.
         LittleLeft alike = Check.kitchen("full 6", 9, Check.a(5, 0, 60), Check.a(5, 0, 60));
         due("alike: on(1, 20)", alike.on(1, 20), 1);
