@@ -40,9 +40,29 @@ public final class BetterTest {
         last.row(1, 0, 2);
         due("last: least(1, 0)", last.least(1, 0), 20);
         due("last: least(1, 1)", last.least(1, 1), 0);
+        byRules();
         LittleLeft nobody = new LittleLeft();
         due("nobody: least(10, 0)", nobody.least(10, 0), 0);
         due("nobody: least(10, 1)", nobody.least(10, 1), 0);
+    }
+
+    /** As rules of each least would have it; here 21 would be better than any, but is not asked. */
+    private static void byRules() {
+        int chosen = -1;
+        int fewest = Integer.MAX_VALUE;
+        for (int least = 0; least <= 21; least++) {
+            LittleLeft y = Check.kitchen("full 12;want 51 g<10;least " + least, 111,
+                Check.a(4, 0, 18), Check.a(3, 0, 5), Check.a(3, 0, 30));
+            int fetches = y.on(7, 1);
+            if (least == 21) {
+                due("21 is better", fetches < fewest ? 1 : 0, 1);
+                due("by rules: least(7, 0)", y.least(7, 0), chosen);
+                due("by rules: least(7, 1)", y.least(7, 1), fewest);
+            } else if (fetches < fewest) {
+                chosen = least;
+                fewest = fetches;
+            }
+        }
     }
 
     private static void full() {

@@ -154,6 +154,12 @@ public final class RulesTest {
         due("its FULL", x.told(3), 200);
         due("its least", x.told(2), 5);
         due("its WANTS", x.of(0, 6), 10);
+        for (int i = 0; i < 4; i++) {
+            due("a long one with a fault", Check.rule(x, "want 1 " + "p=1|".repeat(22) + "|"), -10 - 95);
+        }
+        due("the third", Check.rule(x, "want 5 p=0&k=0;pay 1 p=0|k=1"), 3);
+        due("its WANTS", x.of(0, 6), 15);
+        due("its PAY", x.of(0, 7), 1);
         due("a shorter one with a fault", Check.rule(x, "pay 1 p"), -10 - 7);
         due("PAY", x.of(0, 7), 1);
     }
