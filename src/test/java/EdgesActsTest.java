@@ -73,12 +73,12 @@ public final class EdgesActsTest {
         }
         x.day();
         for (int n = 1; n <= 6; n++) {
-            x.see(600, 552);
+            x.see(600, 540);
         }
+        x.fill(990);
         for (int n = 1; n <= 12; n++) {
             x.book(x.on(n, 0));
         }
-        x.fill(990);
         x.image();
         return x;
     }
@@ -112,6 +112,8 @@ public final class EdgesActsTest {
             return x.undo();
         }, 6);
         LittleLeft x = most();
+        e.in("who()", x.who(), 1);
+        e.in("looked()", x.looked(), -5);
         e.in("DAY", x.told(1), 1);
         e.in("GRAINS", x.told(0), 990);
         otherwise(x);
@@ -119,7 +121,11 @@ public final class EdgesActsTest {
         e.out("GRAINS", x.told(0), 1);
         e.out("SEEN", x.count(2), 1);
         e.out("rows", x.count(3), 1);
+        e.out("who()", x.who(), 0);
+        e.out("looked()", x.looked(), 0);
         e.in("undo()", x.undo(), 6);
+        e.in("who()", x.who(), 1);
+        e.in("looked()", x.looked(), -5);
         e.in("DAY", x.told(1), 1);
         e.in("GRAINS", x.told(0), 990);
         e.in("SEEN", x.count(2), 6);
@@ -314,10 +320,7 @@ public final class EdgesActsTest {
         e.in("trace(0) of one body", x.trace(0), 10);
         e.out("trace(1) of one body", x.trace(1), -1);
         x.act(1, 2, 1);
-        int[] bodies = {40, 12, 70, 11, 71, 10, 10, 70, 11, 71, 10, 10};
-        for (int i = 0; i < bodies.length; i++) {
-            e.in("trace(" + i + ") of twelve", x.trace(i), bodies[i]);
-        }
+        bodies(x, 40, 12, 70, 11, 71, 10, 10, 70, 11, 71, 10, 10);
         e.out("trace(12) of twelve", x.trace(12), -1);
         e.out("trace(19) of twelve", x.trace(19), -1);
         x.act(0, 1, 1);
@@ -326,6 +329,21 @@ public final class EdgesActsTest {
         for (int i : new int[] {-1, 6, 20, 21, MIN, MAX}) {
             e.refused("trace(" + i + ")", y -> y.trace(i), -1);
         }
+        int[][] tells = {{12, 11, 10}, {12, 20, 11, 10}, {12, 11, 30, 10}, {40, 12, 11, 10, 11, 10}, {12, 51, 20, 11, 50, 10},
+            {60, 12, 11, 30, 10}};
+        for (int kind = 0; kind < tells.length; kind++) {
+            LittleLeft y = behind(0, kind, 0);
+            y.act(0, 2, 1);
+            bodies(y, tells[kind]);
+        }
+    }
+
+    /** THE TRACE holds these bodies alone. */
+    private void bodies(LittleLeft x, int... bodies) {
+        for (int i = 0; i < bodies.length; i++) {
+            e.in("trace(" + i + ") of " + bodies.length, x.trace(i), bodies[i]);
+        }
+        e.out("trace(" + bodies.length + ")", x.trace(bodies.length), -1);
     }
 
     private void taken() {

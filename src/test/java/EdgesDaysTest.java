@@ -352,7 +352,18 @@ public final class EdgesDaysTest {
         e.in("on(60, 15)", x.on(60, 15), 0);
         e.in("on(60, 20)", x.on(60, 20), 120);
         e.in("on(60, 25)", x.on(60, 25), 60);
+        for (int p = 0; p < 6; p++) {
+            x.takes(p);
+        }
+        e.in("on(1, 1): more, behind others", x.on(1, 1), 11);
+        e.in("on(1, 2): more, behind others", x.on(1, 2), 199);
+        e.in("on(1, 20): more, behind others", x.on(1, 20), 2);
+        e.out("on(0, 1): none more", x.on(0, 1), 0);
+        e.out("on(0, 2): none more", x.on(0, 2), 0);
+        e.out("on(0, 20): none more", x.on(0, 20), 0);
         x.fill(990);
+        x.takes(0);
+        e.out("on(0, 10): none more", x.on(0, 10), 0);
         e.in("on(2, 10)", x.on(2, 10), 2);
         e.in("on(2, 15)", x.on(2, 15), 2);
         int[] none = {-1, 3, 9, 16, 19, 26, 30, MIN, MAX, MIN + 10, MIN + 20};
@@ -428,6 +439,13 @@ public final class EdgesDaysTest {
         x.fill(65);
         e.out("on DAY 60: next(1)", x.next(1), -5);
         e.out("on DAY 60: next(0)", x.next(0), -5);
+        // On DAY 6 of 7 alone it WANTS what there is.
+        LittleLeft days = Check.kitchen("want 99 d=6&v=3", 100, Check.a(5, 3, 1));
+        e.in("on DAY 6: next(1)", days.next(1), 6);
+        days.fill(200);
+        e.in("on DAY 13: next(1)", days.next(1), 13);
+        days.fill(990);
+        e.out("none on DAYS 6, 13 .. 55: next(1)", days.next(1), -5);
         Supplier<LittleLeft> nobody = () -> Whole.with(y -> y.fill(990));
         e.unchanged("next(1) of five", nobody, y -> y.next(1) >= 0 ? 1 : 0, 1);
     }

@@ -156,6 +156,15 @@ public final class EdgesSeenTest {
         e.out("one FETCH more: on(60, 21)", one.on(60, 21), 60);
         e.out("one FETCH more: pitied(60)", one.pitied(60), 1);
         e.in("one FETCH by the second alone: pitied(1)", one.pitied(1), 1);
+        // The first FETCHED ahead of these DAYS, the second took.
+        LittleLeft ahead = Check.kitchen("", 6, Check.a(5, 0, 1), Check.a(5, 0, 1));
+        ahead.fill(0);
+        ahead.takes(0);
+        for (int n = 0; n < 9; n++) {
+            ahead.takes(1);
+        }
+        ahead.fill(6);
+        e.out("what was ahead does not count: pitied(1)", ahead.pitied(1), 1);
         e.unchanged("pitied(60) of six", EdgesSeenTest::six, y -> y.pitied(60) >= 0 ? 1 : 0, 1);
     }
 

@@ -20,6 +20,7 @@ public final class EdgesTakersTest {
         test.wantsAndPay();
         test.whatTestsAsk();
         test.howTestsCompare();
+        test.howTestsJoin();
         test.portion();
         test.fill();
         test.row();
@@ -234,6 +235,38 @@ public final class EdgesTakersTest {
         e.in("g<99 of 0", x.of(0, 6), 2);
         x.fill(990);
         e.out("g>98 and g>00, but not g<99, of 99", x.of(0, 6), 11);
+    }
+
+    /** Of six who WANT 1 and, if an E holds, 1 more: which do, as bits. */
+    private static int held(String test) {
+        LittleLeft x = Check.kitchen("want 1 " + test, 0);
+        int bits = 0;
+        for (int p = 0; p < 6; p++) {
+            x.taker(0, 0, 1);
+            bits |= (x.of(p, 6) - 1) << p;
+        }
+        return bits;
+    }
+
+    private void howTestsJoin() {
+        e.edge(3, "E: T or T|E. T: F or F&T. F: !F, (E), or a TEST");
+        e.in("p=0", held("p=0"), 1);
+        e.out("!p=0", held("!p=0"), 62);
+        e.in("!!!!p=0", held("!!!!p=0"), 1);
+        e.out("!!!p=0", held("!!!p=0"), 62);
+        e.in("((((p=0))))", held("((((p=0))))"), 1);
+        e.out("!(!(p=0))&!p=0", held("!(!(p=0))&!p=0"), 0);
+        e.in("& ahead of |", held("p=5|p=0&p<1"), 33);
+        e.in("& ahead of |", held("p=0&p<1|p=5"), 33);
+        e.out("but not of ( )", held("(p=5|p=0)&p<1"), 1);
+        e.in("! ahead of &", held("!p=0&p<2"), 2);
+        e.out("but not of ( )", held("!(p=0&p<2)"), 62);
+        e.in("the last of 23", held("p=9|".repeat(22) + "p=5"), 32);
+        e.in("the first of 23", held("p=5" + "|p=9".repeat(22)), 32);
+        e.in("all of 23", held("p<9&".repeat(22) + "p<9"), 63);
+        e.out("the last of 23 does not", held("p<9&".repeat(22) + "p<5"), 31);
+        e.out("the first of 23 does not", held("p>0" + "&p<9".repeat(22)), 62);
+        e.in("within one another", held("p=5|(p<4&(p=0|(p>1&(p=2|p=4))))"), 37);
     }
 
     private void portion() {

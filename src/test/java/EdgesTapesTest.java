@@ -91,6 +91,10 @@ public final class EdgesTapesTest {
         for (int place : new int[] {0, -1, 5, MIN, MAX}) {
             e.out("nothing: judge(2, " + place + ")", x.judge(2, place), 100);
         }
+        x.tape(1, INTS, 60);
+        x.tape(1, -1, 60);
+        e.out("nothing again: judge(1, 0)", x.judge(1, 0), 100);
+        e.out("nothing again: judge(1, 59)", x.judge(1, 59), 100);
         e.refused("judge(4, 0) of nothing", y -> y.judge(4, 0), 100);
         e.refused("judge(0, -1)", y -> y.judge(0, -1), 100);
         e.refused("judge(0, 3) at its end", y -> y.judge(0, 3), 100);
