@@ -355,13 +355,16 @@ public final class EdgesTakersTest {
         for (int n = 3; n <= 100; n++) {
             e.in("a sign more", x.feed(n), n);
         }
-        Supplier<LittleLeft> hundred = () -> Whole.with(y -> Check.feed(y, "x".repeat(94)));
+        // Behind the kitchen's six these are a RULE, so that any other sign among them would be seen.
+        String more = ";want 1 " + "p=1|".repeat(20) + "(p=11)";
+        Supplier<LittleLeft> hundred = () -> Whole.with(y -> Check.feed(y, more));
         e.in("count(4)", hundred.get().count(4), 100);
         e.refused("feed(0) behind 100", hundred, y -> y.feed(0), -4);
         e.refused("feed(127) behind 100", hundred, y -> y.feed(127), -4);
+        e.in("rule() of 100", hundred.get().rule(), 1);
 
         e.edge(7, "BAD; FULL.");
-        e.in("feed(127) behind 99", Whole.with(y -> Check.feed(y, "x".repeat(93))).feed(127), 100);
+        e.in("feed(127) behind 99", Whole.with(y -> Check.feed(y, more.substring(1))).feed(127), 100);
         e.refused("feed(128) behind 100", hundred, y -> y.feed(128), -2);
         e.refused("feed(-1) behind 100", hundred, y -> y.feed(-1), -2);
     }
