@@ -15,6 +15,7 @@ public final class EdgesRulesTest {
     public static void main(String[] args) throws IOException {
         EdgesRulesTest test = new EdgesRulesTest();
         test.clauses();
+        test.allClauses();
         test.words();
         test.blanks();
         test.numbers();
@@ -77,6 +78,25 @@ public final class EdgesRulesTest {
         behind(TEN, DIGITS);
         behind(TEN + "1", "");
         behind(TEN.substring(7), DIGITS + ";");
+    }
+
+    private void allClauses() {
+        e.edge(8, "A RULE is read from THE TEXT (bytes, 100 at most): CLAUSES, 1 to 10");
+        LittleLeft x = Check.kitchen("", 0, Check.a(0, 0, 1));
+        String pay = "pay 1 p=0";
+        e.in("one", Check.rule(x, pay), 0);
+        e.in("PAY by one", x.of(0, 7), 1);
+        e.in("ten", Check.rule(x, (pay + ";").repeat(9) + pay), 1);
+        e.in("PAY by ten", x.of(0, 7), 10);
+        e.in("WANTS by ten", x.of(0, 6), 1);
+        e.in("ten, of which the last is another", Check.rule(x, (ONE + ";").repeat(9) + "least 9"), 2);
+        e.in("least by the tenth", x.told(2), 9);
+        e.in("PAY by none", x.of(0, 7), 0);
+        e.out("ten and a ;", Check.rule(x, (pay + ";").repeat(9) + pay + ";"), -10 - 99);
+        // None of what stood in a text with a FAULT is left in the next one.
+        e.out("a FAULT behind two", Check.rule(x, "want 1 p=0;want 9 p=0;x"), -10 - 22);
+        e.in("one", Check.rule(x, "want 5 p=0"), 3);
+        e.in("WANTS by it alone", x.of(0, 6), 6);
     }
 
     private void words() {

@@ -101,6 +101,13 @@ public final class EdgesSeenTest {
         nobody.fill(1);
         e.in("few(99, 0) of nobody", nobody.few(99, 0), -5);
         e.in("few(99, 1) of nobody", nobody.few(99, 1), -5);
+        // Nobody once more, where one was who left 49.
+        nobody.image();
+        nobody.taker(0, 0, 1);
+        nobody.fill(50);
+        e.in("few(99, 0) of one", nobody.few(99, 0), 0);
+        nobody.undo();
+        e.in("few(99, 0) of nobody again", nobody.few(99, 0), -5);
         e.out("few(100, 0) of nobody", nobody.few(100, 0), -2);
         e.out("few(99, 2) of nobody", nobody.few(99, 2), -1);
         for (int what : new int[] {-1, 2, MIN, MAX}) {
