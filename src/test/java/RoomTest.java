@@ -1,12 +1,20 @@
 import java.lang.management.ManagementFactory;
+import java.lang.reflect.Array;
+import java.lang.reflect.Field;
 import java.lang.reflect.InvocationTargetException;
 import java.lang.reflect.Method;
+import java.lang.reflect.Modifier;
+import java.util.ArrayDeque;
 import java.util.ArrayList;
+import java.util.Arrays;
 import java.util.Comparator;
+import java.util.Deque;
+import java.util.IdentityHashMap;
 import java.util.List;
+import java.util.Map;
 import java.util.Random;
 
-/** For any arguments in any state no call throws; and the dearest calls make no objects. */
+/** For any arguments in any state no call throws; the dearest calls make no objects; how large a new one is. */
 public final class RoomTest {
     private static final Check CHECK = new Check("RoomTest");
     private static final long[] EDGES = {Long.MIN_VALUE, Long.MAX_VALUE, Integer.MIN_VALUE, Integer.MAX_VALUE,
@@ -27,6 +35,7 @@ public final class RoomTest {
             anyCalls(calls, random);
         }
         dearest();
+        made(new LittleLeft());
         CHECK.end();
     }
 
@@ -55,6 +64,43 @@ public final class RoomTest {
             }
             CHECK.due(told.toString(), threw ? 1 : 0, 0);
         }
+    }
+
+    /** What a new object is made of, as README.md tells it. */
+    private static void made(LittleLeft x) throws IllegalAccessException {
+        Map<Object, Boolean> found = new IdentityHashMap<>();
+        Deque<Object> next = new ArrayDeque<>();
+        next.add(x);
+        int items = 0;
+        while (!next.isEmpty()) {
+            Object one = next.remove();
+            if (found.put(one, true) == null) {
+                items += one.getClass().isArray() ? elements(one, next) : fields(one, next);
+            }
+        }
+        CHECK.due("objects and arrays of a new one", found.size(), 104);
+        CHECK.due("fields and elements of a new one", items, 2036);
+    }
+
+    private static int elements(Object row, Deque<Object> next) {
+        if (row instanceof Object[] objects) {
+            next.addAll(Arrays.asList(objects));
+        }
+        return Array.getLength(row);
+    }
+
+    private static int fields(Object one, Deque<Object> next) throws IllegalAccessException {
+        int fields = 0;
+        for (Field f : one.getClass().getDeclaredFields()) {
+            if (!Modifier.isStatic(f.getModifiers())) {
+                fields++;
+                f.setAccessible(true);
+                if (!f.getType().isPrimitive()) {
+                    next.add(f.get(one));
+                }
+            }
+        }
+        return fields;
     }
 
     private static void dearest() {
